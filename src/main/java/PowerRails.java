@@ -580,8 +580,8 @@ public final class PowerRails {
                 return false;
             }
             // There is no "not" in formulas, so leaving out one at a time tells of all lesser sets.
-            for (int bit = 1; bit < SETS; bit <<= 1) {
-                if ((set & bit) != 0 && holdsWith(r, set & ~bit)) {
+            for (int part = 0; part <= RAILS; part++) {
+                if (((set >> part) & 1) == 1 && holdsWith(r, set & ~(1 << part))) {
                     return false;
                 }
             }
