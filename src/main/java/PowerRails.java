@@ -532,10 +532,8 @@ public final class PowerRails {
             behind = 5;
         }
 
-        /** A rail of which nothing more is told than that it is there. */
+        /** A rail of which nothing more is told than how long it takes to rise, which comes next. */
         void addRail() {
-            setNumber(rails, LEAST, 1);
-            setNumber(rails, MOST, 1);
             setNumber(rails, FALL, 1);
             setNumber(rails, DRAW, 1);
             setNumber(rails, RISING_DRAW, 2);

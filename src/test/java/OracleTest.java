@@ -94,10 +94,11 @@ public final class OracleTest {
         run = "run " + seed;
         x = new PowerRails();
         y = new Oracle();
-        for (int told = 0; told < 2; told++) {
+        // A text more than there are plans in an object, so that each is used again.
+        for (int told = 0; told < 4; told++) {
             int rails = 1 + below(chance(70) ? 4 : 8);
             tell(text(rails, rails > 4 ? 2 : 4));
-            for (int i = 0; i < 90; i++) {
+            for (int i = 0; i < 45; i++) {
                 switch (below(5)) {
                     case 0 -> askText(rails);
                     case 1, 2 -> askRun(rails);
@@ -217,9 +218,18 @@ public final class OracleTest {
                 s.delete(at, Math.min(s.length(), at + 1 + below(6)));
             }
         }
+        tell(text(8, 4));
+        tell(text(8, 4));
         tell(s.toString());
-        tell(s.toString());
-        due("rails", x.count(0), y.count(0));
+        for (int r = 0; r < 8; r++) {
+            for (int what = 0; what < 8; what++) {
+                due("rail " + r + " " + what, x.rail(r, what), y.rail(r, what));
+            }
+            due("words " + r, x.words(r, 0), y.words(r, 0));
+        }
+        for (int what = 0; what < 4; what++) {
+            due("rule " + what, x.rule(what), y.rule(what));
+        }
     }
 
     private static void manyWays(int seed) {

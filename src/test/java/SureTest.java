@@ -231,6 +231,8 @@ public final class SureTest {
         for (int r = 0; r < 6; r++) {
             Due.is("six " + r, z.stagger(10 + r), row[r]);
         }
+        Due.is("adopt six", z.adopt(), 3);
+        Due.is("the last of six", z.rail(5, 5), 2);
         PowerRails w = Due.of("rail a 1 1 when a;");
         Due.is("none up", w.stagger(0), PowerRails.NONE);
         Due.is("none up for a", w.stagger(10), PowerRails.NONE);

@@ -12,6 +12,7 @@ public final class TextTest {
         deepBrackets();
         refusedTextKeeps();
         takenTextBeginsAnew();
+        textsInTurn();
         rails();
         rules();
         holds();
@@ -193,6 +194,8 @@ public final class TextTest {
         refused("rail a 1 1 fall 1 draw 1 1 wait 1 within 1 on 1;", 2, 43);
         refused("limit 1;retry 1 1;limit;", 4, 18);
         refused("retry 1 1;limit 1;retry #", 4, 18);
+        refused("limit 1;rail a 1 1;limit 2;", 4, 19);
+        refused("retry 1 1;rail a 1 1;retry 1 1;", 4, 21);
         refused("rail a 1 1 when b;rail b 1 1 when c;", 6, 34);
         refused("rail a 1 1 when key & d | c;rail b 1 1 when c;", 6, 22);
         refused("rail a 1 1 when a | h;", 6, 20);
@@ -273,6 +276,25 @@ public final class TextTest {
         Due.is("no rails any more", x.is(0, 0), PowerRails.BAD);
         Due.is("retry anew", x.rule(1), 0);
         Due.is("behind anew", x.rule(2), 5);
+    }
+
+    /** What a text does not tell is as told at first, whatever texts before it told. */
+    private static void textsInTurn() {
+        PowerRails x = new PowerRails();
+        for (int i = 0; i < 4; i++) {
+            Due.tell(x, "rail a 2 3 fall 5 draw 6 7 wait 8 within 9 when a & b;rail b 1 1 when b;limit 8;retry 2 3;");
+            Due.tell(x, i < 2 ? "limit 0;" : "");
+            Due.tell(x, "rail a 1 1;rail b 1 1;");
+            int[] due = {1, 1, 1, 1, 2, 0, 0, 256};
+            for (int what = 0; what < due.length; what++) {
+                Due.is("in turn " + what, x.rail(0, what), due[what]);
+            }
+            Due.is("in turn a", x.words(0, 10), 256);
+            Due.is("in turn b", x.holds(1, 3), 0);
+            Due.is("in turn limit", x.rule(0), 999);
+            Due.is("in turn retry", x.rule(1), 0);
+            Due.is("in turn behind", x.rule(2), 5);
+        }
     }
 
     private static void rails() {
