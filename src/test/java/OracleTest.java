@@ -19,6 +19,10 @@ public final class OracleTest {
             random = new Random(seed);
             brokenText(seed);
         }
+        for (int seed = 0; seed < 500; seed++) {
+            random = new Random(seed);
+            sureAsItGoes(seed);
+        }
         for (int seed = 0; seed < 25; seed++) {
             random = new Random(seed);
             manyWays(seed);
@@ -230,6 +234,34 @@ public final class OracleTest {
         for (int what = 0; what < 4; what++) {
             due("rule " + what, x.rule(what), y.rule(what));
         }
+    }
+
+    /** With nothing that trips and none dead, ticks must bear out what was reckoned ahead of them. */
+    private static void sureAsItGoes(int seed) {
+        run = "sure " + seed;
+        int rails = 1 + below(8);
+        String text = text(rails, 4).replaceAll(" within [0-9]+|limit [0-9]+;", "");
+        x = new PowerRails();
+        if (Due.tell(x, text) < 0) {
+            return;
+        }
+        for (int r = 0; r < rails; r++) {
+            x.time(r, x.rail(r, 0) + below(x.rail(r, 1) - x.rail(r, 0) + 1));
+        }
+        x.key(true);
+        int peak = 0;
+        for (int t = 0; t < 120; t++) {
+            x.go(1);
+            due("drawn at " + t, x.drawn(t), x.now(3));
+            peak = Math.max(peak, x.now(3));
+            for (int r = 0; r < rails; r++) {
+                boolean good = x.when(r, 0) != PowerRails.NONE && x.when(r, 0) <= t;
+                due("good at " + t, good ? 3 : 0, x.is(r, 0) == 3 ? 3 : 0);
+            }
+        }
+        due("up in the end", x.up(0), x.now(1));
+        due("peak in the end", x.peak(0), x.up(0) == 0 ? PowerRails.NONE : peak);
+        due("trips", x.now(8), 0);
     }
 
     private static void manyWays(int seed) {
