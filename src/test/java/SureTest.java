@@ -265,12 +265,17 @@ public final class SureTest {
         Due.is("not by them", x.ahead(0, 1, 1), -1002);
     }
 
-    private static void longestChain() {
+    private static String chain(String draw) {
         StringBuilder s = new StringBuilder("rail a 9 9 wait 9;");
         for (char c = 'b'; c <= 'h'; c++) {
-            s.append("rail ").append(c).append(" 9 9 wait 9 draw 1 99 when ").append((char) (c - 1)).append(';');
+            s.append("rail ").append(c).append(" 9 9 wait 9 draw ").append(draw);
+            s.append(" when ").append((char) (c - 1)).append(';');
         }
-        PowerRails x = Due.of(s.toString());
+        return s.toString();
+    }
+
+    private static void longestChain() {
+        PowerRails x = Due.of(chain("1 99"));
         Due.is("the last", x.when(7, 2), 144);
         Due.is("peak", x.peak(0), 106);
         Due.is("its tick", x.peak(1), 135);
@@ -282,5 +287,9 @@ public final class SureTest {
         Due.is("rises as it goes", x.is(7, 0), 2);
         x.go(1);
         Due.is("good as it goes", x.now(1), 255);
+        PowerRails y = Due.of(chain("99 1"));
+        Due.is("peak at the last tick", y.peak(0), 694);
+        Due.is("which is", y.peak(1), 144);
+        Due.is("least by all times", y.peak(3), 694);
     }
 }
