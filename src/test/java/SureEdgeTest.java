@@ -22,6 +22,8 @@ public final class SureEdgeTest {
         waysCountAllRails();
         alwaysAhead();
         mostTicksAhead();
+        aheadByAllThatBearOnIt();
+        aheadOfDeadSources();
         aheadRefuses();
         aheadFirstThatFits();
         drawnTicks();
@@ -233,6 +235,30 @@ public final class SureEdgeTest {
         Due.is("the least there can be", z.ahead(7, 6, 1), -125);
     }
 
+    private static void aheadByAllThatBearOnIt() {
+        Due.says("By ALL TIMES");
+        PowerRails x = Due.of("rail a 1 2 when b & c;rail b 1 3;rail c 1 4 when d | b;rail d 2 5;rail e 1 9;rail f 6 6;");
+        // a is good at 3 at the earliest, and at 3 + 4 + 2 at the latest, for b is good by 3.
+        Due.is("f ahead of a", x.ahead(0, 5, 1), 3);
+        Due.is("a ahead of f", x.ahead(5, 0, 1), 3);
+        // b takes 3, d takes 2: c is good at 3 with b, and a one behind them.
+        Due.is("a always behind b", x.ahead(1, 0, 1), -1);
+        PowerRails y = Due.of("rail a 1 9 when b;rail b 1 9 when c;rail c 1 9 when d;rail d 1 1;rail e 9 9;");
+        Due.is("a chain, told backwards", y.ahead(0, 4, 1), 19);
+        Due.is("the other way", y.ahead(4, 0, 1), 5);
+    }
+
+    private static void aheadOfDeadSources() {
+        Due.says("NONE -1004: one of both is not UP");
+        PowerRails x = Due.of("rail a 1 1;rail b 5 5;rail c 1 1 when a | b;");
+        Due.is("c by a", x.ahead(2, 1, 1), -3);
+        Due.is("c ahead of b", x.ahead(2, 1, 0), 2);
+        x.dead(0, true);
+        Due.is("c by b alone", x.ahead(2, 1, 1), 1);
+        Due.is("c not ahead of b", x.ahead(2, 1, 0), 0);
+        Due.is("a is not up", x.ahead(2, 0, 1), -1004);
+    }
+
     private static void aheadRefuses() {
         Due.says("ahead: BAD -1000: also one and the same");
         PowerRails x = Due.of("rail a 1 1;rail b 1 1;");
@@ -333,6 +359,11 @@ public final class SureEdgeTest {
         Due.is("the least all the same", x.peak(3), 11);
         x.dead(2, true);
         Due.is("without c", x.peak(2), 10);
+        // a rises from 1 to 2; c rises with it only if b takes no longer than its least.
+        PowerRails y = Due.of("rail a 1 1 wait 1 draw 0 9;rail b 1 2 draw 0 0;rail c 1 1 draw 0 9 when b;");
+        Due.is("by least times", y.peak(0), 18);
+        Due.is("the greatest by least times", y.peak(2), 18);
+        Due.is("the least by other times", y.peak(3), 9);
     }
 
     private static void peakRefuses() {

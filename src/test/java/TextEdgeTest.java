@@ -11,6 +11,7 @@ public final class TextEdgeTest {
         fourHundredBytes();
         placesFromZero();
         asLongAsMayBe();
+        almostTheName();
         blanksBetween();
         oneByte();
         oneToThreeFigures();
@@ -172,6 +173,33 @@ public final class TextEdgeTest {
         refused("limi 1;", 2, 0);
         refused("retr y 1 1;", 2, 0);
         taken("rail a1 1fall1draw1 1wait1within1when(a)&key|a;limit1;retry1 1;", 3);
+    }
+
+    /** A name with one letter changed, left out or added, is another one. */
+    private static void almost(String ahead, String name, int fault) {
+        for (int i = 0; i < name.length(); i++) {
+            String left = name.substring(0, i);
+            String right = name.substring(i + 1);
+            refused(ahead + left + "x" + right, fault, ahead.length());
+            refused(ahead + left + (char) (name.charAt(i) + 1) + right, fault, ahead.length());
+            refused(ahead + left + right, fault, ahead.length());
+            refused(ahead + left + "x" + name.charAt(i) + right, fault, ahead.length());
+        }
+        refused(ahead + name + "x", fault, ahead.length());
+        refused(ahead + name + name, fault, ahead.length());
+    }
+
+    private static void almostTheName() {
+        Due.says("2 (a NAME that begins no line, is no with), 3 a NAME that is no R where one must be");
+        for (String name : new String[] {"rail", "limit", "retry"}) {
+            almost("", name, 2);
+            almost("rail a 1 1;", name, 2);
+        }
+        for (String name : new String[] {"fall", "draw", "wait", "within", "when"}) {
+            almost("rail a 1 1 ", name, 2);
+        }
+        almost("rail a 1 1 when ", "key", 3);
+        almost("rail a 1 1 when (a & ", "key", 3);
     }
 
     private static void blanksBetween() {
