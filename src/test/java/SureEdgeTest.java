@@ -19,6 +19,7 @@ public final class SureEdgeTest {
         whenNone();
         whenRefuses();
         waysAtMost();
+        theLastOf20000();
         waysCountAllRails();
         alwaysAhead();
         mostTicksAhead();
@@ -192,6 +193,29 @@ public final class SureEdgeTest {
             + "rail g 1 9;rail h 1 9;").count(3), PowerRails.SPENT);
         Due.is("one way", Due.of("rail a 9 9;rail b 1 1;").count(3), 1);
         Due.is("of no rails", new PowerRails().count(3), 1);
+    }
+
+    /** What only the way has in which all take MOST, and what only that has in which all take LEAST. */
+    private static void theLastOf20000() {
+        Due.says("ALL TIMES: all ways .. (20000 ways at most)");
+        PowerRails x = Due.of("rail a 1 8;rail b 1 4 when a;rail c 1 5 when b;rail d 1 5 when c;rail e 1 5 when d;"
+            + "rail f 1 5 when e;rail g 1 1;");
+        Due.is("ways", x.count(3), 20000);
+        Due.is("all take most", x.ahead(5, 6, 1), 31);
+        Due.is("all take least", x.ahead(6, 5, 1), -5);
+        // At tick 26 h rises; e does by then only if a to e take most, f only if it takes most.
+        PowerRails y = Due.of("rail a 1 8 draw 0 0;rail b 1 4 draw 0 0 when a;rail c 1 5 draw 0 0 when b;"
+            + "rail d 1 5 draw 0 0 when c;rail e 1 5 draw 0 9 when d;rail f 1 5 wait 5 draw 0 9 when g;"
+            + "rail g 9 9 wait 8 draw 0 0;rail h 1 1 wait 9 draw 0 9 when g;");
+        Due.is("ways of another", y.count(3), 20000);
+        Due.is("by least times", y.peak(0), 9);
+        Due.is("the least", y.peak(3), 9);
+        Due.is("the greatest", y.peak(2), 27);
+        Due.tell(y, "rail a 1 8 draw 0 0;rail b 1 4 draw 0 0 when a;rail c 1 5 draw 0 0 when b;"
+            + "rail d 1 5 draw 0 0 when c;rail e 1 5 draw 9 0 when d;rail f 1 5 wait 5 draw 9 0 when g;"
+            + "rail g 9 9 wait 8 draw 0 0;rail h 1 1 wait 9 draw 0 9 when g;");
+        Due.is("the greatest of a third", y.peak(2), 27);
+        Due.is("the least of a third", y.peak(3), 18);
     }
 
     private static void waysCountAllRails() {
