@@ -1329,7 +1329,7 @@ public final class PowerRails {
 
         void findPeak(Plan plan) {
             for (int r = 0; r < plan.rails; r++) {
-                if (isUp(r)) {
+                if (isUp(r) && goodAt[r] <= LAST_TICK) {
                     changes[risesAt[r]] += plan.number(r, Plan.RISING_DRAW);
                     changes[goodAt[r]] += plan.number(r, Plan.DRAW) - plan.number(r, Plan.RISING_DRAW);
                 }
